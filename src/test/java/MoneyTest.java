@@ -37,6 +37,8 @@ public final class MoneyTest {
         promise31HeirMore();
         promise32Worst();
         largest();
+        full();
+        allShares();
         CHECK.close("MoneyTest");
     }
 
@@ -211,6 +213,19 @@ public final class MoneyTest {
         d.undo();
         is("the failing before", d.total(0), 0);
         is("what came then", d.came(0, 0, 0), 5);
+        d = Check.desk("limit 1; person p; bank b; bank c; single s at b of p 9; plan l at c of p 5; loan p at b 2;");
+        d.fail(0, 3);
+        // claims 6 and 1: 18/7 = 2 rest 4, 3/7 = 0 rest 3
+        d.fail(1, 0);
+        yes("undo the second", d.undo());
+        came(d, 0, 0, 2, 1, 3, 3);
+        came(d, 1, 0, -1, -1, -1, -1);
+        total(d, 0, 2, 1, 3, 0, 3);
+        d.undo();
+        d.fail(0, 100);
+        d.fail(1, 0);
+        d.undo();
+        total(d, 0, 2, 1, 6, 1, 0);
         d.months(0);
         is("a refused one counts not", d.look(7), 1);
         yes("undo", d.undo());
@@ -665,6 +680,10 @@ public final class MoneyTest {
         is("a move", d.move(0, 0, 2), 2);
         d = Check.desk("limit 10; person p; bank b; bank c; bank e; single s at c of p 9; single t at b of p 25;");
         moves(d, 4, 11, 2, 0, 1, 1, 0, 2, 10);
+        d = Check.desk("limit 10; person p; bank b; bank c; single s at b of p 10; single t at c of p 9;");
+        moves(d, 0, 0, 1);
+        d.put(1, 1);
+        moves(d, 0, 0, -1);
     }
 
     private static void promise27And30Kinds() {
@@ -751,6 +770,12 @@ public final class MoneyTest {
         // q: 25 of 10 is 15 open, r 25
         is("r", d.rank(0), 2);
         is("q", d.rank(1), 1);
+        CoverDesk e = Check.desk("limit 10; grace 1; person p; person q; bank b; bank c;"
+                + "single s at b of p 10; single t at c of p 10; single u at b of q 15;");
+        is("q: 5", e.rank(0), 1);
+        e.merge(0, 1);
+        e.months(1);
+        is("p: 10 now", e.rank(0), 0);
     }
 
     private static void promise31HeirMore() {
@@ -770,6 +795,8 @@ public final class MoneyTest {
         CoverDesk e = Check.desk("limit 10; person p; person q; bank b; trust t at b of p q for g h i j k 130;"
                 + "trust u at b of p for x 0; trust v at b of q for p q 0;");
         is("5 heirs already", e.heirMore(0), 0);
+        CoverDesk one = Check.desk("limit 10; person p; bank b; trust t at b of p for a 30;");
+        is("a NAME that nobody has", one.heirMore(0), 10);
         CoverDesk f = Check.desk("limit 10; person p; person q; bank b; trust t at b of p q for g h 63;");
         is("for two: 32 and 31 of 20, of 30", f.heirMore(0), 20);
         f.take(0, 20);
@@ -797,6 +824,8 @@ public final class MoneyTest {
         is("none", d.worst(1), -1);
         is("another what", small().worst(2), -1);
         is("another what", small().worst(-1), -1);
+        CoverDesk none = Check.desk("limit 1; person p; bank b; single s at b of p 100;");
+        is("an estate of 0", none.worst(1), 99);
         is("none lost: the first", small().worst(0), 0);
         is("none lost", small().worst(1), 0);
     }
@@ -825,5 +854,84 @@ public final class MoneyTest {
         is("paid", d.total(2), 100000000);
         is("lost and divided", d.total(3) + d.total(5), 2100000001L);
         is("divided in all", d.total(3) + d.total(4), 100000000);
+    }
+
+    /** As many people, banks and accounts as there may be. */
+    private static void full() {
+        StringBuilder b = new StringBuilder("limit10;");
+        for (char c = 'a'; c <= 'j'; c++) {
+            b.append("person ").append(c).append(';');
+        }
+        for (char c = 'k'; c <= 'p'; c++) {
+            b.append("bank ").append(c).append(';');
+        }
+        for (int i = 0; i < 24; i++) {
+            b.append("plan ").append(i < 10 ? "" : "x").append((char) ((i < 10 ? 'q' : 'a' - 10) + i)).append(" at ")
+                    .append((char) ('k' + i % 6)).append(" of ").append((char) ('a' + i % 10)).append("9;");
+        }
+        for (int i = 0; i < 8; i++) {
+            b.append("loan ").append((char) ('a' + i)).append(" at p4;");
+        }
+        CoverDesk d = Check.desk(b.toString());
+        is("accounts", d.look(2), 24);
+        long coins = 0;
+        for (int bank = 0; bank < 6; bank++) {
+            is("four at each", d.bank(bank, 3), 4);
+            is("36 at each", d.held(bank, 0), 36);
+            is("counted", d.bank(bank, 4), 4);
+            is("insured", d.held(bank, 1), 36);
+        }
+        for (int person = 0; person < 10; person++) {
+            coins += d.of(person, 999, 1);
+            is("room at all six", d.moves(person, 1), 0);
+            is("rank", d.rank(person), person);
+            is("warns", d.warns(person), -1);
+        }
+        is("all", coins, 216);
+        is("worst", d.worst(1), 0);
+        is("loans", d.held(5, 2), 32);
+        for (int bank = 0; bank < 5; bank++) {
+            yes("merge", d.merge(bank, bank + 1));
+        }
+        is("change", d.change(0), 6);
+        is("one change", d.change(-1), 1);
+        is("all now at the last", d.bank(5, 3), 24);
+        d.months(6);
+        is("all counted at the last", d.bank(5, 4), 24);
+        // a, b, c and d have 27, the others 18
+        is("insured: 10 each", d.held(5, 1), 100);
+        is("a's accounts: 4, 3, 3", d.account(0, 8) * 100 + d.account(10, 8) * 10 + d.account(20, 8), 433);
+        is("asKind", d.asKind(23, 0), 9);
+        yes("fail", d.fail(5, 100000000));
+        // a to h owe 4, less than what is not insured
+        is("set off", d.total(1), 32);
+        is("paid", d.total(2), 100);
+        is("divided", d.total(3), 84);
+        is("lost", d.total(5), 0);
+        is("no more bank", d.worst(0), -1);
+        for (int account = 0; account < 24; account++) {
+            is("0 coins", d.account(account, 4), 0);
+        }
+    }
+
+    /** As many shares as there may be, all at one bank. */
+    private static void allShares() {
+        StringBuilder b = new StringBuilder("limit 24;person a;person b;person c;person d;bank y;");
+        for (char c = 'a'; c <= 'x'; c++) {
+            b.append("joint j").append(c).append(" at y of a b c d6;");
+        }
+        CoverDesk d = Check.desk(b.toString());
+        // of each account 2, 2, 1, 1: a and b have 48 of which 24 are insured, c and d 24
+        is("insured", d.held(0, 1), 96);
+        is("a's first", d.owner(0, 0, 2), 1);
+        is("d's last", d.owner(23, 3, 2), 1);
+        is("worst", d.worst(1), 48);
+        yes("fail", d.fail(0, 36));
+        // 48 claims of 1 and one of 96: 36 of 144 is 0 rest 36 each, and 24
+        total(d, 0, 0, 96, 12, 24, 36);
+        came(d, 0, 0, 0, 1, 1, 0);
+        came(d, 5, 1, 0, 1, 1, 0);
+        came(d, 6, 0, 0, 1, 0, 1);
+        came(d, 23, 3, 0, 1, 0, 0);
     }
 }

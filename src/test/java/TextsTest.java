@@ -109,6 +109,14 @@ public final class TextsTest {
         Check.tell(d, ";");
         d.book();
         is("the first 9 and a sign", d.look(5), 123);
+        Check.tell(d, "limit 1234567;");
+        d.end(9);
+        d.book();
+        is("what was cut off is not read", d.fault(1), 9);
+        Check.book(d, "person ab;");
+        Check.tell(d, "abc");
+        d.end(2);
+        is("nor letters", d.named(0), 0);
     }
 
     private static void promise4Book() {
@@ -171,6 +179,21 @@ public final class TextsTest {
         is("none failed yet", d.total(0), -1);
         is("none came", d.came(0, 0, 0), -1);
         CHECK.no("nothing to undo", d.undo());
+        d.fail(0, 3);
+        Check.book(d, BASE + "trust t at b of p q for x y 9 term 5; joint j at c of p q r 7; plan l at b of p 1; loan q at c 5;");
+        is("the first has not failed", d.bank(0, 2), 0);
+        is("the loan", d.loan(0, 2), 5);
+        Check.book(d, BASE + "single s at b of q 9;");
+        is("a smaller one: accounts", d.look(2), 1);
+        is("no heirs any more", d.account(0, 6), 0);
+        is("no term any more", d.account(0, 7), 0);
+        is("one owner", d.account(0, 5), 1);
+        is("which", d.owner(0, 0, 0), 1);
+        is("no loans", d.loan(0, 0), -1);
+        is("no more at b", d.bank(0, 3), 1);
+        is("none at c", d.bank(1, 3), 0);
+        is("no more of p", d.of(0, 0, 0), 0);
+        is("limit at first", d.look(5), 250000);
     }
 
     private static void promise5Day() {
@@ -182,6 +205,7 @@ public final class TextsTest {
         is("loan: 9 less 4, set off", d.loan(0, 2), 0);
         is("set off", d.total(1), 5);
         is("paid: 15 - 5 and 18", d.total(2), 28);
+        is("the estate", d.total(4), 7);
         is("one to undo", d.look(7), 1);
         CHECK.yes("undo the day", d.undo());
         is("as before: coins", d.account(0, 4), 10);
@@ -208,6 +232,8 @@ public final class TextsTest {
         is("loan", d.loan(0, 2), 0);
         is("116 deeds", Check.day(d, "put1t;".repeat(116)), 116);
         is("116 coins", d.account(1, 4), 136);
+        is("less deeds than the day before", Check.day(d, "put 1 t;"), 1);
+        is("one coin", d.account(1, 4), 137);
     }
 
     /** The sign ^ stands where the fault is due. */
@@ -345,7 +371,7 @@ public final class TextsTest {
             fault(true, text, 4);
         }
         String[] none = {"", "put 100000000 s;", "put 0 s;take 0 s;", "months 100000000;", "pay 100000000 100000000;",
-            "fail b 100000000;", "merge b into b;", "put5s;\n months\n5\n;"};
+            "fail b 100000000;", "merge b into b;", "pay 0 0;", "months 0;", "fail b 0;", "put5s;\n months\n5\n;"};
         for (String text : none) {
             fault(true, text, 0);
         }
@@ -391,6 +417,18 @@ public final class TextsTest {
         is("a person is no account", named(d, "p", 2), -1);
         is("an heir is none", named(d, "heir", 0), -1);
         is("another what", named(d, "p", 3), -1);
+        String[] alike = {"a", "b", "aa", "ab", "ba", "bb", "az", "za", "zz", "aaa"};
+        StringBuilder many = new StringBuilder();
+        for (String name : alike) {
+            many.append("person ").append(name).append(';');
+        }
+        CoverDesk m = Check.desk(many.toString());
+        for (int i = 0; i < alike.length; i++) {
+            is("named " + alike[i], named(m, alike[i], 0), i);
+        }
+        for (String name : new String[] {"c", "ac", "ca", "z", "aaaa", "aaaaaaaa", "aab", "baa"}) {
+            is("named " + name, named(m, name, 0), -1);
+        }
         is("another what below", named(d, "p", -1), -1);
         is("none", named(d, "", 0), -1);
         is("blanks", named(d, " ", 0), -1);
