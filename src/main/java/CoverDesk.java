@@ -1461,12 +1461,13 @@ public final class CoverDesk {
         }
 
         private int unlikeHeirs(int person) {
+            long own = told.isPerson(person) ? told.personName[person] : 0;
             int n = 0;
             for (int i = 0; i < group.count; i++) {
                 int account = member[i] / MOST_OWNERS;
                 for (int h = 0; h < told.heirs[account] && n < MOST_HEIRS_INSURED; h++) {
                     long heir = told.heir[account * MOST_HEIRS + h];
-                    if (heir != told.personName[person] && !isAmongHeirs(heir, n)) {
+                    if (heir != own && !isAmongHeirs(heir, n)) {
                         heirs[n] = heir;
                         n++;
                     }
