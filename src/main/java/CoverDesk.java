@@ -1588,10 +1588,10 @@ public final class CoverDesk {
         }
 
         private boolean takeCoins(int account, int coins) {
-            if (!told.isAccount(account) || !isAmount(coins)) {
+            if (!told.isAccount(account) || !isAmount(coins) || coins > now.coins[account]) {
                 return false;
             }
-            now.coins[account] -= Math.min(coins, now.coins[account]);
+            now.coins[account] -= coins;
             return true;
         }
 
@@ -1613,10 +1613,10 @@ public final class CoverDesk {
         }
 
         private boolean payLoan(int loan, int coins) {
-            if (!told.isLoan(loan) || !isAmount(coins)) {
+            if (!told.isLoan(loan) || !isAmount(coins) || coins > now.owed[loan]) {
                 return false;
             }
-            now.owed[loan] -= Math.min(coins, now.owed[loan]);
+            now.owed[loan] -= coins;
             return true;
         }
 

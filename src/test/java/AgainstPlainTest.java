@@ -306,6 +306,16 @@ public final class AgainstPlainTest {
         }
     }
 
+    /** Now and then as much as there is, or one more. */
+    private int near(int amount, int there) {
+        switch (random.nextInt(6)) {
+            case 0: return there;
+            case 1: return there + 1;
+            case 2: return random.nextInt(Math.max(1, there));
+            default: return amount;
+        }
+    }
+
     private void deed() {
         int a = number(plain.look(2));
         int b = number(plain.look(1));
@@ -317,6 +327,7 @@ public final class AgainstPlainTest {
                 same("put", desk.put(a, n), plain.call("put", a, n));
                 break;
             case 1:
+                n = near(n, plain.account(a, 4));
                 told.append("take " + a + " " + n);
                 same("take", desk.take(a, n), plain.call("take", a, n));
                 break;
@@ -333,6 +344,7 @@ public final class AgainstPlainTest {
                 break;
             case 5:
                 int loan = number(plain.look(3));
+                n = near(n, plain.loan(loan, 2));
                 told.append("pay " + loan + " " + n);
                 same("pay", desk.pay(loan, n), plain.call("pay", loan, n));
                 break;

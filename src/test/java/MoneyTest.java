@@ -88,9 +88,15 @@ public final class MoneyTest {
         CoverDesk d = small();
         yes("take", d.take(0, 4));
         is("left", d.account(0, 4), 6);
-        yes("as many as it has at most", d.take(0, 7));
+        no("as many as it has at most", d.take(0, 7));
+        no("of 21", d.take(1, 100000000));
+        is("refused: 6 stay", d.account(0, 4), 6);
+        is("refused: 21 stay", d.account(1, 4), 21);
+        is("refused can't be undone", d.look(7), 1);
+        yes("all", d.take(0, 6));
         is("none left", d.account(0, 4), 0);
-        yes("all", d.take(1, 100000000));
+        no("1 of 0", d.take(0, 1));
+        yes("all of 21", d.take(1, 21));
         is("none left of 21", d.account(1, 4), 0);
         no("0", d.take(0, 0));
         no("-1", d.take(0, -1));
@@ -99,6 +105,11 @@ public final class MoneyTest {
         no("none such", d.take(2, 1));
         no("none such below", d.take(-1, 1));
         is("to undo", d.look(7), 3);
+        d.put(0, 100000000);
+        yes("100000000", d.take(0, 100000000));
+        d.undo();
+        d.fail(0, 0);
+        no("a failed bank left none", d.take(0, 1));
     }
 
     private static void promise10Merge() {
@@ -146,9 +157,13 @@ public final class MoneyTest {
         CoverDesk d = small();
         yes("pay", d.pay(0, 12));
         is("left", d.loan(0, 2), 18);
-        yes("as much as it is at most", d.pay(0, 19));
+        no("as much as it is at most", d.pay(0, 19));
+        no("above what it was", d.pay(0, 100000000));
+        is("refused: 18 stay", d.loan(0, 2), 18);
+        is("refused can't be undone", d.look(7), 1);
+        yes("all", d.pay(0, 18));
         is("none left", d.loan(0, 2), 0);
-        yes("all", d.pay(1, 100000000));
+        no("1 of 0", d.pay(0, 1));
         no("0", d.pay(1, 0));
         no("-1", d.pay(1, -1));
         no("MIN", d.pay(1, MIN));
@@ -156,6 +171,7 @@ public final class MoneyTest {
         no("none such", d.pay(2, 1));
         no("NONE", d.pay(-1, 1));
         is("accounts stay", d.account(0, 4), 10);
+        is("to undo", d.look(7), 2);
     }
 
     private static void promise13Fail() {

@@ -608,7 +608,10 @@ final class PlainDesk {
                     return false;
                 }
                 Account a = w.accounts.get(one);
-                a.coins = Math.max(0, a.coins - other);
+                if (a.coins - other < 0) {
+                    return false;
+                }
+                a.coins -= other;
                 return true;
             }
             case "merge": {
@@ -630,7 +633,10 @@ final class PlainDesk {
                     return false;
                 }
                 Loan l = w.loans.get(one);
-                l.coins = Math.max(0, l.coins - other);
+                if (l.coins - other < 0) {
+                    return false;
+                }
+                l.coins -= other;
                 return true;
             }
             default:
