@@ -2,8 +2,11 @@ import java.util.ArrayList;
 import java.util.List;
 import java.util.Random;
 
-/** Random runs, always the same ones, each call asked of CoverDesk and of PlainDesk. */
+/** Random runs, always the same ones, each call asked of CoverDesk and of PlainDesk; 512 calls of an object at most. */
 public final class AgainstPlainTest {
+    private static final int MOST_CALLS = 512;
+    // a text of 700 bytes and what reads it, or named() of ten
+    private static final int CALLS_OF_A_STEP = 60;
     private static int wrong = 0;
     private static long asked = 0;
 
@@ -12,6 +15,7 @@ public final class AgainstPlainTest {
     private final CoverDesk desk = new CoverDesk();
     private final PlainDesk plain = new PlainDesk();
     private final StringBuilder told = new StringBuilder();
+    private int calls = 0;
     // how seldom a text has a slip, 0: it has none
     private int slips = 0;
     private List<String> people = new ArrayList<>();
@@ -24,7 +28,7 @@ public final class AgainstPlainTest {
     }
 
     public static void main(String[] args) {
-        int runs = args.length > 0 ? Integer.parseInt(args[0]) : 300;
+        int runs = args.length > 0 ? Integer.parseInt(args[0]) : 1000;
         int from = args.length > 1 ? Integer.parseInt(args[1]) : 1;
         for (int run = from; run < from + runs && wrong < 5; run++) {
             new AgainstPlainTest(run).go();
@@ -37,6 +41,7 @@ public final class AgainstPlainTest {
 
     private void same(String call, long got, long due) {
         asked++;
+        calls++;
         if (got != due) {
             wrong++;
             if (wrong < 5) {
@@ -50,12 +55,25 @@ public final class AgainstPlainTest {
     }
 
     private void go() {
-        look();
+        ask(20);
         book(false);
-        look();
-        for (int i = 0; i < 15; i++) {
+        ask(60);
+        while (calls < MOST_CALLS - CALLS_OF_A_STEP) {
             step();
-            look();
+            ask(25);
+        }
+        ask(MOST_CALLS);
+    }
+
+    private void ask(int questions) {
+        for (int i = 0; i < questions && calls < MOST_CALLS; i++) {
+            switch (random.nextInt(5)) {
+                case 0: askOfAll(); break;
+                case 1: askOfAnAccount(number(plain.look(2))); break;
+                case 2: askOfABank(number(plain.look(1)), number(6)); break;
+                case 3: askOfAPerson(number(plain.look(0))); break;
+                default: askOfAnOwner(number(plain.look(2)), number(random.nextBoolean() ? 2 : 4));
+            }
         }
     }
 
@@ -354,69 +372,77 @@ public final class AgainstPlainTest {
         }
     }
 
-    private void look() {
-        for (int i = -2; i < 11; i++) {
-            same("look(" + i + ")", desk.look(i), plain.look(i));
-            same("change(" + i + ")", desk.change(i), plain.change(i));
-            same("fault(" + i + ")", desk.fault(i), plain.fault(i));
-            same("total(" + i + ")", desk.total(i), plain.total(i));
-            same("worst(" + i + ")", desk.worst(i), plain.worst(i));
-            same("rank(" + i + ")", desk.rank(i), plain.rank(i));
-        }
-        for (int a = -1; a <= plain.look(2); a++) {
-            lookAtAccount(a);
-        }
-        for (int b = -1; b <= plain.look(1); b++) {
-            for (int what = -2; what < 6; what++) {
-                same("bank(" + b + ", " + what + ")", desk.bank(b, what), plain.bank(b, what));
-                same("held(" + b + ", " + what + ")", desk.held(b, what), plain.held(b, what));
-            }
-        }
-        for (int l = -1; l <= plain.look(3); l++) {
-            for (int what = -2; what < 4; what++) {
-                same("loan(" + l + ", " + what + ")", desk.loan(l, what), plain.loan(l, what));
-            }
-        }
-        for (int p = -1; p <= plain.look(0); p++) {
-            lookAtPerson(p);
-        }
-        for (int i = 0; i < 20; i++) {
-            int p = number(plain.look(0));
-            int kind = number(5);
-            int b = number(plain.look(1));
-            int month = random.nextBoolean() ? number(1000) : plain.look(4) + random.nextInt(8);
-            int what = number(4);
-            same("group(" + p + ", " + kind + ", " + b + ", " + month + ", " + what + ")",
-                    desk.group(p, kind, b, month, what), plain.group(p, kind, b, month, what));
-            same("of(" + p + ", " + month + ", " + what + ")", desk.of(p, month, what), plain.of(p, month, what));
+    private void askOfAll() {
+        int what = number(10);
+        int i = number(6);
+        switch (random.nextInt(7)) {
+            case 0: same("look(" + what + ")", desk.look(what), plain.look(what)); break;
+            case 1: same("change(" + i + ")", desk.change(i), plain.change(i)); break;
+            case 2:
+                what = number(2);
+                same("fault(" + what + ")", desk.fault(what), plain.fault(what));
+                break;
+            case 3: same("total(" + i + ")", desk.total(i), plain.total(i)); break;
+            case 4:
+                what = number(2);
+                same("worst(" + what + ")", desk.worst(what), plain.worst(what));
+                break;
+            case 5: same("rank(" + i + ")", desk.rank(i), plain.rank(i)); break;
+            default:
+                i = number(plain.look(3));
+                what = number(3);
+                same("loan(" + i + ", " + what + ")", desk.loan(i, what), plain.loan(i, what));
         }
     }
 
-    private void lookAtAccount(int a) {
-        for (int what = -2; what < 11; what++) {
-            same("account(" + a + ", " + what + ")", desk.account(a, what), plain.account(a, what));
-        }
-        for (int k = -1; k < 5; k++) {
-            for (int what = -1; what < 5; what++) {
-                same("owner(" + a + ", " + k + ", " + what + ")", desk.owner(a, k, what), plain.owner(a, k, what));
-                same("came(" + a + ", " + k + ", " + what + ")", desk.came(a, k, what), plain.came(a, k, what));
-            }
-        }
-        same("bestKind(" + a + ")", desk.bestKind(a), plain.bestKind(a));
-        same("heirMore(" + a + ")", desk.heirMore(a), plain.heirMore(a));
-        for (int kind = -1; kind < 6; kind++) {
-            same("asKind(" + a + ", " + kind + ")", desk.asKind(a, kind), plain.asKind(a, kind));
+    private void askOfAnAccount(int a) {
+        int what = number(10);
+        int kind = number(5);
+        switch (random.nextInt(5)) {
+            case 0:
+            case 1: same("account(" + a + ", " + what + ")", desk.account(a, what), plain.account(a, what)); break;
+            case 2: same("bestKind(" + a + ")", desk.bestKind(a), plain.bestKind(a)); break;
+            case 3: same("heirMore(" + a + ")", desk.heirMore(a), plain.heirMore(a)); break;
+            default: same("asKind(" + a + ", " + kind + ")", desk.asKind(a, kind), plain.asKind(a, kind));
         }
     }
 
-    private void lookAtPerson(int p) {
-        for (int what = -2; what < 4; what++) {
-            same("moves(" + p + ", " + what + ")", desk.moves(p, what), plain.moves(p, what));
-            for (int i = -2; i < 6; i++) {
-                same("move(" + p + ", " + i + ", " + what + ")", desk.move(p, i, what), plain.move(p, i, what));
-            }
-            same("of(" + p + ", now, " + what + ")", desk.of(p, plain.look(4), what), plain.of(p, plain.look(4), what));
+    private void askOfAnOwner(int a, int k) {
+        int what = number(4);
+        if (random.nextBoolean()) {
+            same("owner(" + a + ", " + k + ", " + what + ")", desk.owner(a, k, what), plain.owner(a, k, what));
+        } else {
+            same("came(" + a + ", " + k + ", " + what + ")", desk.came(a, k, what), plain.came(a, k, what));
         }
-        same("warns(" + p + ")", desk.warns(p), plain.warns(p));
+    }
+
+    private void askOfABank(int b, int what) {
+        switch (random.nextInt(4)) {
+            case 0: same("bank(" + b + ", " + what + ")", desk.bank(b, what), plain.bank(b, what)); break;
+            case 1: same("held(" + b + ", " + what + ")", desk.held(b, what), plain.held(b, what)); break;
+            default:
+                int p = number(plain.look(0));
+                int kind = number(5);
+                int month = someMonth();
+                same("group(" + p + ", " + kind + ", " + b + ", " + month + ", " + what + ")",
+                        desk.group(p, kind, b, month, what), plain.group(p, kind, b, month, what));
+        }
+    }
+
+    private void askOfAPerson(int p) {
+        int what = number(3);
+        int i = random.nextBoolean() ? -1 : number(4);
+        int month = someMonth();
+        switch (random.nextInt(4)) {
+            case 0: same("moves(" + p + ", " + what + ")", desk.moves(p, what), plain.moves(p, what)); break;
+            case 1: same("move(" + p + ", " + i + ", " + what + ")", desk.move(p, i, what), plain.move(p, i, what)); break;
+            case 2: same("warns(" + p + ")", desk.warns(p), plain.warns(p)); break;
+            default: same("of(" + p + ", " + month + ", " + what + ")", desk.of(p, month, what), plain.of(p, month, what));
+        }
+    }
+
+    private int someMonth() {
+        int choice = random.nextInt(4);
+        return choice == 0 ? number(1000) : plain.look(4) + (choice == 1 ? 0 : random.nextInt(8));
     }
 }

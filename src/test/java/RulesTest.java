@@ -142,6 +142,7 @@ public final class RulesTest {
         CHECK.yes("bytes made by one object: " + (after - before) + one.look(0), after - before < 60000);
     }
 
+    /** Each method, with some two hundred calls, since an object is used for 512 at most. */
     private static void calls(CoverDesk d) {
         d.feed(0x6d6f6e74, 0x6873313b, 0x6d657267, 0x65206220, 0x696e746f);
         d.feed(0x20633b20, 0x20202020, 0x20202020, 0x20202020, 0x20202020);
@@ -151,8 +152,10 @@ public final class RulesTest {
         d.merge(0, 1);
         d.months(1);
         d.pay(0, 1);
-        for (int i = -1; i < 11; i++) {
-            for (int what = -1; what < 11; what++) {
+        d.account(0, 8);
+        d.account(0, 9);
+        for (int i = -1; i < 2; i++) {
+            for (int what = 0; what < 5; what++) {
                 d.account(i, what);
                 d.owner(0, i, what);
                 d.bank(i, what);
