@@ -331,6 +331,17 @@ public final class EdgesOfAdviceTest {
         is("4", d.change(1), 4);
     }
 
+    static void promise28ChangeByMonthsNotByAccounts() {
+        CoverDesk d = Check.desk(HEAD + "single s at b of p 8 term 9; single t at b of p 8 term 5; single u at b of q 1;"
+                + "plan l at b of p 1 term 7;");
+        d.merge(0, 1);
+        int[] due = {3, 5, 7, 9};
+        is("four", d.change(-1), 4);
+        for (int i = 0; i < 4; i++) {
+            is("i " + i, d.change(i), due[i]);
+        }
+    }
+
     static void promise28ChangeAtOnce() {
         CoverDesk d = Check.desk("grace 0; person p; bank b; bank c; single s at b of p 1; single t at b of p 1 term 7;");
         d.months(1);
@@ -482,6 +493,20 @@ public final class EdgesOfAdviceTest {
         is("all of it more", d.asKind(0, 3), 100000000);
     }
 
+    static void promise30AsKindOfTheLastOf24Accounts() {
+        StringBuilder b = new StringBuilder("limit 30;person p;bank b;");
+        for (char c = 'a'; c <= 'x'; c++) {
+            b.append("plan ").append(c).append("x at b of p9;");
+        }
+        CoverDesk d = Check.desk(b.toString());
+        // 216 of 30; one of 9 by itself is all INSURED
+        is("single", d.asKind(23, 0), 9);
+        is("firm", d.asKind(23, 4), 9);
+        is("no ACCOUNT 24", d.asKind(24, 0), NOT);
+        is("best", d.bestKind(23), 0);
+        is("none", d.bestKind(24), -1);
+    }
+
     static void promise30AsKindNowAndChangingNothing() {
         CoverDesk d = Check.desk(HEAD + "single s at b of p 8; single t at c of p 8;");
         d.merge(0, 1);
@@ -548,6 +573,15 @@ public final class EdgesOfAdviceTest {
         is("another GROUP", Check.desk(HEAD + "trust t at b of p for x y 0; trust r at c of p for x 25;").heirMore(0), 0);
         is("5 of the GROUP already", Check.desk(HEAD + "trust t at b of p for x y 99; trust r at b of p for u v w 99;")
                 .heirMore(0), 0);
+    }
+
+    static void promise31HeirMoreWithTheNameOfOneOwner() {
+        // p: x of 30, q: p and x of 30; one more for each
+        CoverDesk d = Check.desk(HEAD + "trust t at b of p q for p x 60;");
+        is("10 for each", d.heirMore(0), 20);
+        // p has none, which is as good as one; q has p
+        d = Check.desk(HEAD + "trust t at c of q p for p 60;");
+        is("10 for q alone", d.heirMore(0), 10);
     }
 
     static void promise31HeirMoreOfANameThatNobodyHas() {

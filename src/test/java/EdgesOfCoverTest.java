@@ -244,6 +244,34 @@ public final class EdgesOfCoverTest {
         }
     }
 
+    static void promise16OwnerWho() {
+        CoverDesk d = Check.desk("person p; person q; person r; person o; bank b; single s at b of r 1; joint j at b of o p r q 9;"
+                + "trust t at b of q p for x 5; firm f at b of o 1;");
+        int[][] due = {{2}, {3, 0, 2, 1}, {1, 0}, {3}};
+        for (int account = 0; account < 4; account++) {
+            for (int k = 0; k < due[account].length; k++) {
+                is("owner(" + account + ", " + k + ", 0)", d.owner(account, k, 0), due[account][k]);
+            }
+        }
+    }
+
+    static void promise16OwnersOf24Accounts() {
+        StringBuilder b = new StringBuilder("limit 24;person a;person b;person c;person d;bank y;");
+        for (char c = 'a'; c <= 'x'; c++) {
+            b.append("joint j").append(c).append(" at y of d c b a6;");
+        }
+        CoverDesk d = Check.desk(b.toString());
+        // SHARES are 2, 2, 1, 1: d and c have 48 of MOST 24, b and a have 24
+        for (int account = 0; account < 24; account++) {
+            for (int k = 0; k < 4; k++) {
+                is("SHARE of " + account + ", " + k, d.owner(account, k, 1), k < 2 ? 2 : 1);
+                is("INSURED of " + account + ", " + k, d.owner(account, k, 2), 1);
+            }
+            is("no fifth", d.owner(account, 4, 0), -1);
+        }
+        is("of all", d.held(0, 1), 96);
+    }
+
     private static void shares(String owners, int coins, int... due) {
         CoverDesk d = Check.desk("limit 100000000; person p; person q; person r; person o; bank b;" + owners + " " + coins + ";");
         for (int k = 0; k < due.length; k++) {
@@ -669,6 +697,32 @@ public final class EdgesOfCoverTest {
         is("q at c: p", d.group(1, 2, 1, 0, 1), 10);
     }
 
+    static void promise19MostOfTrustWithTheNameOfOneOwner() {
+        CoverDesk d = desk("trust t at b of p q for p x 60; trust r at c of p q for q y 60;");
+        int[][] due = {{10, 20}, {20, 10}};
+        for (int bank = 0; bank < 2; bank++) {
+            for (int person = 0; person < 2; person++) {
+                is("MOST of " + person + " at " + bank, d.group(person, 2, bank, 0, 1), due[bank][person]);
+                is("INSURED of " + person + " at " + bank, d.group(person, 2, bank, 0, 2), due[bank][person]);
+                is("of the SHARE", d.owner(bank, person, 2), due[bank][person]);
+            }
+            is("of the ACCOUNT", d.account(bank, 8), 30);
+        }
+    }
+
+    static void promise19MostOfTrustOfTheLastAccount() {
+        CoverDesk d = Check.desk("person p;bank b;limit 10;" + "trust z at b of p for u v 9;");
+        is("a BOOK before", d.group(0, 2, 0, 0, 1), 20);
+        Check.book(d, "limit 10;" + firms(23, 1) + "trust zz at b of p for p w x y a aa 99;");
+        is("ACCOUNTS", d.look(2), 24);
+        is("HEIRS", d.account(23, 6), 6);
+        is("5 of them", d.group(0, 2, 0, 0, 1), 50);
+        is("INSURED", d.account(23, 8), 50);
+        Check.book(d, "limit 10;" + firms(22, 1) + "trust yy at b of p for h i 9;trust zz at b of p for i h j 99;");
+        is("3 of both", d.group(0, 2, 0, 0, 1), 30);
+        is("both ACCOUNTS", d.group(0, 2, 0, 0, 3), 2);
+    }
+
     static void promise19MostOfOthersIsLimit() {
         CoverDesk d = desk("single s at b of p 1; single t at b of p 1; joint j at b of p q 1; plan l at b of p 1;"
                 + "firm f at b of p 1; trust r at b of p for u v w 1;");
@@ -784,6 +838,14 @@ public final class EdgesOfCoverTest {
         is("in 5", d.warns(0), 5);
         d.months(2);
         is("none any more", d.warns(0), -1);
+    }
+
+    static void promise21WarnsOfTheFirstWhateverAccountItIs() {
+        CoverDesk d = desk("single s at b of p 8 term 5; single t at b of p 2; single u at c of p 9;");
+        d.merge(0, 1);
+        is("t in 3", d.warns(0), 3);
+        d.months(3);
+        is("s in 5", d.warns(0), 5);
     }
 
     static void promise21WarnsAboveNow() {

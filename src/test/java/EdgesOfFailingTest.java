@@ -192,6 +192,19 @@ public final class EdgesOfFailingTest {
         is("LOAN 9", d.loan(9, 2), 1);
     }
 
+    static void promise22SetOffOfTheLastOf24Accounts() {
+        StringBuilder b = new StringBuilder("person p;person q;bank b;limit 5;loan q at b4;");
+        for (char c = 'a'; c <= 'w'; c++) {
+            b.append("firm ").append(c).append("x at b of p1;");
+        }
+        CoverDesk d = new CoverDesk();
+        is("24", Check.book(d, b + "firm z at b of q9;"), 24);
+        d.fail(0, 0);
+        came(d, 23, 0, 4, 5, 0, 0);
+        is("p's", d.total(5), 18);
+        is("LOAN", d.loan(0, 2), 0);
+    }
+
     static void promise22SetOffOfItsPersonsShares() {
         // p has 13, q 12 of the joint one, 10 of each INSURED
         CoverDesk d = failed("joint j at b of p q 25; loan q at b 100;", 0);
@@ -325,6 +338,26 @@ public final class EdgesOfFailingTest {
         total(failed("single s at b of p 15; loan p at b 2;", 13), 0, 2, 10, 3, 10, 0);
         // 36 by 13 is 2 rest 10, 120 by 13 is 9 rest 3
         total(failed("single s at b of p 15; loan p at b 2;", 12), 0, 2, 10, 3, 9, 0);
+    }
+
+    static void promise23EstateOfAsManyClaimsAsThereMayBe() {
+        StringBuilder b = new StringBuilder("limit 24;person a;person b;person c;person d;bank y;");
+        for (char c = 'a'; c <= 'x'; c++) {
+            b.append("joint j").append(c).append(" at y of d c b a8;");
+        }
+        CoverDesk d = Check.desk(b.toString());
+        // 48 of each, of which 24 are INSURED: 96 CLAIMS of 1 and one of 96
+        d.fail(0, 100);
+        // 100 by 192 rest 100 of each, 9600 by 192 is 50: 50 are left, for d, c, b, a of the first twelve and two more
+        total(d, 0, 0, 96, 50, 50, 46);
+        is("of the twelfth", d.came(11, 3, 2), 1);
+        is("of the next", d.came(12, 1, 2), 1);
+        is("no more", d.came(12, 2, 2), 0);
+        is("the last", d.came(23, 3, 3), 1);
+        d.undo();
+        d.fail(0, 192);
+        total(d, 0, 0, 96, 96, 96, 0);
+        is("the last", d.came(23, 3, 2), 1);
     }
 
     // ---- promise 23: total ----

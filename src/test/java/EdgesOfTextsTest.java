@@ -397,6 +397,27 @@ public final class EdgesOfTextsTest {
         is("at its begin", d.fault(1), 26);
     }
 
+    static void promise4TapeOf700BytesThatEndsInAWord() {
+        for (String word : new String[] {"p", "perso", "person", "limi", "abcdefgh", "abcdefghi", "loan"}) {
+            CoverDesk d = new CoverDesk();
+            Check.tell(d, " ".repeat(700 - word.length()) + word);
+            is(word, d.book(), -1);
+            is("fault of " + word, d.fault(0), 1);
+            boolean begins = word.equals("person") || word.equals("loan");
+            is("place of " + word, d.fault(1), begins ? 700 : 700 - word.length());
+        }
+    }
+
+    static void promise4TapeOf700BytesThatEndsInAnN() {
+        CoverDesk d = new CoverDesk();
+        Check.tell(d, " ".repeat(690) + "limit 1234");
+        is("no ;", d.book(), -1);
+        is("at the end", d.fault(1), 700);
+        Check.tell(d, " ".repeat(690) + "limit1234;");
+        is("with it", d.book(), 0);
+        is("LIMIT", d.look(5), 1234);
+    }
+
     // ---- promise 4: what stands in a book ----
 
     static void promise4LimitAtFirst() {
@@ -483,6 +504,21 @@ public final class EdgesOfTextsTest {
                 BASE + "trust t at b of p for ^abcdefghi 1;", BASE + "trust t at b of p for x ^abcdefghi 1;",
                 BASE + "joint j at b of p ^abcdefghi 1;", BASE + "loan ^abcdefghi at b 1;", BASE + "loan p at ^abcdefghi 1;");
         books(0, BASE + "trust abcdefgh at b of p for abcdefgi x 1;");
+    }
+
+    static void promise4NamesOf9LettersThatBeginLikeOneTold() {
+        String head = "person abcdefgh; bank zyxwvuts; firm ponmlkji at zyxwvuts of abcdefgh 5;";
+        books(1, head + "person ^abcdefghi;", head + "firm f at ^zyxwvutsr of abcdefgh 5;",
+                head + "firm f at zyxwvuts of ^abcdefghi 5;", head + "firm f at zyxwvuts of abcdefgh ^abcdefghi 5;",
+                head + "loan ^abcdefghi at zyxwvuts 5;", head + "trust t at zyxwvuts of abcdefgh for abcdefgh ^abcdefghi 5;",
+                "^limitlimi 5;", "^personbank p;");
+        CoverDesk d = Check.desk(head);
+        is("a PERSON", Check.named(d, "abcdefghi", 0), -1);
+        is("a BANK", Check.named(d, "zyxwvutsr", 1), -1);
+        is("an ACCOUNT", Check.named(d, "ponmlkjih", 2), -1);
+        is("a DEED", Check.day(d, "put 1 ponmlkjih;"), -1);
+        is("fault", d.fault(0), 1);
+        is("with 8", Check.day(d, "put 1 ponmlkji;"), 1);
     }
 
     static void promise4NamesAreNoneOfTheWords() {
@@ -674,6 +710,16 @@ public final class EdgesOfTextsTest {
         no("no more to undo", d.undo());
     }
 
+    static void promise5DayBehindADayOfMoreDeeds() {
+        CoverDesk d = Check.desk(DAYS);
+        is("three", Check.day(d, "put 1 s; put 10 s; put 100 s;"), 3);
+        is("two", Check.day(d, "take 1 s; take 10 s;"), 2);
+        is("COINS", d.account(0, 4), 150);
+        is("told", d.look(9), 2);
+        is("none", d.day(), 0);
+        is("COINS still", d.account(0, 4), 150);
+    }
+
     static void promise5DayReadAheadOfWhatItDoes() {
         CoverDesk d = Check.desk(DAYS);
         is("a fault behind a DEED that is refused", Check.day(d, "put 0 s; put 1 x;"), -1);
@@ -744,6 +790,17 @@ public final class EdgesOfTextsTest {
         is("put there", Check.day(d, "put 1 s;"), 0);
         is("an ESTATE of 0", Check.day(d, "merge c into e; fail e 0;"), 2);
         is("a MERGED one", Check.day(d, "fail c 0;"), 0);
+    }
+
+    static void promise5DayFailWithAnEstate() {
+        for (int estate : new int[] {0, 1, 50, 51, 100000000}) {
+            CoverDesk d = Check.desk("limit 30;" + DAYS);
+            d.pay(0, 5);
+            is("fail", Check.day(d, "fail b " + estate + ";"), 1);
+            // CLAIMS 20 and 30: of 1, rests 20 and 30
+            is("to PEOPLE of " + estate, d.total(3), estate < 50 ? 0 : 20);
+            is("to the last of " + estate, d.total(4), estate < 50 ? estate : 30);
+        }
     }
 
     // ---- promise 6 ----
