@@ -1007,22 +1007,23 @@ public final class CoverDesk {
         private boolean readOwners(int account, int kind) {
             int most = kind == JOINT ? MOST_OWNERS : kind == TRUST ? 2 : 1;
             draft.owners[account] = 0;
-            do {
+            // the last turn is for the one that is too many
+            for (int n = 0; n <= most && (n == 0 || tape.sort == NAME); n++) {
                 int person = draft.personNamed(tape.name);
                 boolean again = draft.ownerOf(account, person) != NONE;
-                if (tape.sort == NAME && !again && person != NONE && draft.owners[account] >= most) {
+                if (n == most && person != NONE && !again) {
                     return tape.refuse(ONE_TOO_MANY);
                 }
                 if (!tape.passKnown(again ? NONE : person)) {
                     return false;
                 }
                 draft.addOwner(account, person);
-            } while (tape.sort == NAME && draft.owners[account] <= most);
+            }
             return true;
         }
 
         private boolean readHeirs(int account) {
-            do {
+            for (int n = 0; n <= MOST_HEIRS && (n == 0 || tape.sort == NAME); n++) {
                 long name = tape.name;
                 if (tape.sort != NAME) {
                     return tape.refuse(CANNOT_STAND);
@@ -1030,12 +1031,12 @@ public final class CoverDesk {
                 if (draft.hasHeir(account, name)) {
                     return tape.refuse(NAME_UNKNOWN);
                 }
-                if (draft.heirs[account] >= MOST_HEIRS) {
+                if (n == MOST_HEIRS) {
                     return tape.refuse(ONE_TOO_MANY);
                 }
                 draft.addHeir(account, name);
                 tape.step();
-            } while (tape.sort == NAME && draft.heirs[account] <= MOST_HEIRS);
+            }
             return true;
         }
 

@@ -1087,4 +1087,20 @@ public final class EdgesOfTextsTest {
         d.day();
         is("none", d.look(9), 0);
     }
+
+    static void promise33LookBehindABook() {
+        CoverDesk d = Check.desk("limit 7; grace 9;" + DAYS);
+        Check.day(d, "months 4; put 1 s;");
+        is("a BOOK with a fault", Check.book(d, "limit 5; grace 5; person p"), -1);
+        int[] before = {3, 2, 2, 1, 4, 7, 9, 1, 0, 2};
+        for (int what = 0; what < before.length; what++) {
+            is("with a fault: look(" + what + ")", d.look(what), before[what]);
+        }
+        is("a BOOK", Check.book(d, "grace 5; person p;"), 0);
+        // a BOOK is no DAY: what the latest DAY told stays
+        int[] behind = {1, 0, 0, 0, 0, 250000, 5, 0, 0, 2};
+        for (int what = 0; what < behind.length; what++) {
+            is("behind it: look(" + what + ")", d.look(what), behind[what]);
+        }
+    }
 }
